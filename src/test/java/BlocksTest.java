@@ -15,6 +15,7 @@ public final class BlocksTest {
         turn();
         join();
         joinKeepsAndCarries();
+        joinOfManyBlocks();
         joinRefuses();
         cut();
         cutRefuses();
@@ -155,6 +156,11 @@ public final class BlocksTest {
         check.refuses("take from block -1", x, Check.INDEX, () -> x.take(-1, 0));
         x.undo();
         check.rows("take undone", x, "5,7");
+        VowBlocks full = Check.with("9,8*22,7");
+        check.same("take the first of 24", full.take(0, 0), 9);
+        check.same("take the last of 23", full.take(0, 22), 7);
+        check.rows("taken", full, "8" + ",8".repeat(21));
+        check.same("the sum of those that are left", full.ask(0, 1, 0), 22 * 8);
     }
 
     private static void turn() {
@@ -211,6 +217,27 @@ public final class BlocksTest {
         check.same("questions do not", x.block(0, 6), 1);
         check.same("fines come along", x.block(0, 7), one[7] + other[7]);
         check.same("choices do not", x.block(0, 11), 1);
+    }
+
+    private static void joinOfManyBlocks() {
+        VowBlocks x = eight();
+        check.same("join with the last of eight", x.join(0, 7), 0);
+        check.same("join with the first", x.join(3, 0), 2);
+        check.rows("joined", x, "11", "12", "13,10,17,18", "14", "15", "16");
+        x.put(5, 0, 90);
+        for (int i = 0; i < 5; i++) {
+            x.add(5, 3);
+        }
+        x.pass(2);
+        x.ask(5, 1, 0);
+        x.breakVow(5);
+        check.holds("the last block has regrets", x.block(5, 4) > 0);
+        x.join(4, 5);
+        check.same("a block behind it", x.make(6, 2), 5);
+        for (int what = 4; what <= 7; what++) {
+            check.same("nothing of the one that is gone, " + what, x.block(5, what), 0);
+        }
+        check.same("its own choice alone", x.block(5, 11), 1);
     }
 
     private static int[] properties(VowBlocks x, int block) {

@@ -46,6 +46,12 @@ public final class DaysTest {
         two.make(255, 24);
         two.put(1, 23, 0);
         check.same("pass sums all blocks", two.pass(3), 6 * 193);
+        VowBlocks eight = new VowBlocks();
+        for (int i = 0; i < 8; i++) {
+            eight.make(255, 24);
+            eight.put(i, 23, 0);
+        }
+        check.same("pass sums eight blocks", eight.pass(2), 16 * 193);
     }
 
     private static void passChoosesAnew() {
@@ -145,6 +151,10 @@ public final class DaysTest {
         check.same("ask is saved", x.count(9), 6);
         x.undo();
         check.same("a question undone", x.block(0, 6), 6);
+        VowBlocks full = Check.with("10*23,200");
+        check.same("the sum of 24", full.ask(0, 1, 0), 430);
+        check.same("the first at the end of 24", full.ask(0, 2, 200), 23);
+        check.same("how many of 24", full.ask(0, 0, 10), 23);
         check.same("a sum of 0", x.ask(1, 1, 0), 0);
     }
 

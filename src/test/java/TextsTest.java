@@ -6,8 +6,11 @@ public final class TextsTest {
         append();
         clearBuffer();
         firstError();
+        firstErrorOfLongTexts();
         everySecondSign();
         undo();
+        undoOfChoices();
+        undoOfEightBlocks();
         undoDropsTheOldest();
         check.finish();
     }
@@ -81,6 +84,20 @@ public final class TextsTest {
         error("1,2:3", 3);
     }
 
+    private static void firstErrorOfLongTexts() {
+        error("1,".repeat(30), 60);
+        error("1,".repeat(29) + "12", 60);
+        error("1,".repeat(29) + "1x", 59);
+        VowBlocks x = new VowBlocks();
+        Check.type(x, "1,x");
+        x.clearBuffer();
+        Check.type(x, "1,");
+        check.same("what was cleared is no matter", x.firstError(), 2);
+        x.clearBuffer();
+        Check.type(x, "1*1,".repeat(15).substring(0, 59) + "1");
+        check.same("no error in 60", x.firstError(), 60);
+    }
+
     private static void everySecondSign() {
         String[] starts = {"", "5", "0", "25", "5*", "5*2", "5,"};
         String[] next = {"0123456789", "0123456789,*", ",*", "012345,*", "123456789", "01234,", "0123456789"};
@@ -116,6 +133,38 @@ public final class TextsTest {
         check.same("undo of make", x.undo(), 0);
         check.same("no blocks", x.count(0), 0);
         check.refuses("undo at the end", x, Check.STATE, x::undo);
+    }
+
+    private static void undoOfChoices() {
+        VowBlocks x = Check.with("7*9,8,7*3,200");
+        x.pass(40);
+        for (int place = 0; place < 12; place++) {
+            x.put(0, place, 20 * place);
+        }
+        check.same("its code", x.block(0, 1), 4);
+        check.same("its vow", x.block(0, 3), 30);
+        x.pass(30);
+        check.holds("another code", x.block(0, 1) != 4);
+        check.same("another vow", x.block(0, 3), 60);
+        check.same("three choices", x.block(0, 11), 3);
+        x.undo();
+        check.same("its code again", x.block(0, 1), 4);
+        check.same("its vow again", x.block(0, 3), 30);
+        check.same("two choices again", x.block(0, 11), 2);
+    }
+
+    private static void undoOfEightBlocks() {
+        VowBlocks x = new VowBlocks();
+        for (int i = 0; i < 8; i++) {
+            x.make(i, 1 + i);
+        }
+        x.ask(7, 1, 0);
+        x.join(0, 7);
+        x.join(5, 2);
+        x.undo();
+        x.undo();
+        check.rows("eight again", x, "0", "1,1", "2,2,2", "3,3,3,3", "4,4,4,4,4", "5,5,5,5,5,5", "6,6,6,6,6,6,6", "7,7,7,7,7,7,7,7");
+        check.same("the question again", x.block(7, 6), 1);
     }
 
     private static void undoDropsTheOldest() {

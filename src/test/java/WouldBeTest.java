@@ -68,6 +68,9 @@ public final class WouldBeTest {
         check.same("common with two of them", two.cost(0, 4), 8 + 5 + 24);
         check.same("the common one is 3", two.work(0, 4, 0, 3), 1);
         check.same("the common one is not 9", two.work(0, 4, 0, 9), 4);
+        VowBlocks first = Check.with("3,9");
+        check.same("the common one is 3, the first", first.work(0, 4, 0, 3), 1);
+        check.same("the common one is not 9, the last", first.work(0, 4, 0, 9), 2);
     }
 
     private static void costRefuses() {
@@ -208,6 +211,8 @@ public final class WouldBeTest {
         check.same("by runs, at a border", runs.cheapest(0, 9), 1);
         runs.put(0, 8, 77);
         check.same("by runs, between two", runs.cheapest(0, 8), 1);
+        VowBlocks high = Check.with("255*12,0*12");
+        check.same("by runs, the highest", high.cheapest(0, 0), 255);
         VowBlocks table = Check.with("1,255,1,255,0*4");
         check.same("by table", table.cheapest(0, 0), 0);
         table.put(0, 0, 9);
@@ -254,11 +259,20 @@ public final class WouldBeTest {
         check.holds("of nothing", x.meanBits() == 0.0);
         x.make(5, 24);
         check.holds("12 bits of 24 values", x.meanBits() == 0.5);
+        check.same("the bits of a half in the digest", x.digest(), fromTheFace(x, ""));
+        check.same("the bits of 12 / 23 in the digest", digestBehindTake(), 1);
         x.put(0, 23, 0);
         check.holds("by the code, not by the best one", x.meanBits() == 104.0 / 24);
         Check.row(x, "1,255,1");
         check.holds("of two blocks", x.meanBits() == (104.0 + 19) / 27);
         check.same("its bits in the digest", x.digest(), fromTheFace(x, ""));
+    }
+
+    private static int digestBehindTake() {
+        VowBlocks x = new VowBlocks();
+        x.make(5, 24);
+        x.take(0, 3);
+        return x.meanBits() == 12.0 / 23 && x.digest() == fromTheFace(x, "") ? 1 : 0;
     }
 
     private static void digest() {
