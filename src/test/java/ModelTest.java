@@ -2,7 +2,8 @@ import java.util.Random;
 
 /** Long runs of calls, always the same ones, each answered by the program and by the model. */
 public final class ModelTest {
-    private static final int RUNS = 40;
+    private static final int RUNS = 300;
+    // What an object answers behind its 512th call is free, so a run ends before that.
     private static final int CALLS = 512;
     private static final int[] ODD = {-1, 8, 24, 25, 60, 256, -2, Integer.MAX_VALUE, Integer.MIN_VALUE};
 
@@ -13,6 +14,7 @@ public final class ModelTest {
     private final int run;
     private final VowBlocks x = new VowBlocks();
     private final Model model = new Model();
+    private int calls = 0;
 
     private ModelTest(int run) {
         this.run = run;
@@ -22,7 +24,7 @@ public final class ModelTest {
     public static void main(String[] args) {
         for (int run = 0; run < RUNS && faults < 10; run++) {
             ModelTest test = new ModelTest(run);
-            for (int i = 0; i < CALLS && faults < 10; i++) {
+            for (int i = 0; test.calls < CALLS && faults < 10; i++) {
                 test.call(i);
             }
         }
@@ -46,11 +48,18 @@ public final class ModelTest {
     }
 
     private void both(String what, Check.Call mine, Check.Call due) {
+        // There must be a call left for the digest too.
+        if (calls + 2 > CALLS) {
+            calls = CALLS;
+            return;
+        }
         long got = told(mine);
+        calls++;
         same(what, got, told(due));
         // The model's digest is dear, so it is asked for seldom; behind a refusal, which must change nothing, more often.
         if (random.nextInt(got < Long.MIN_VALUE / 2 ? 4 : 60) == 0) {
             same("the digest behind " + what, x.digest(), model.digest());
+            calls++;
         }
     }
 
@@ -59,11 +68,11 @@ public final class ModelTest {
     }
 
     private int block() {
-        return odd(random.nextInt(Math.max(1, x.count(0))));
+        return odd(random.nextInt(Math.max(1, (int) model.count(0))));
     }
 
     private int place(int block) {
-        int size = block >= 0 && block < x.count(0) ? x.block(block, 0) : 1;
+        int size = block >= 0 && block < model.count(0) ? (int) model.block(block, 0) : 1;
         return odd(random.nextInt(size + (random.nextInt(20) == 0 ? 1 : 0)));
     }
 
@@ -79,7 +88,7 @@ public final class ModelTest {
     }
 
     private void call(int i) {
-        int kind = i < 12 ? random.nextInt(5) : random.nextInt(40);
+        int kind = i < 8 ? random.nextInt(5) : random.nextInt(40);
         if (kind < 20) {
             blocks(kind);
         } else if (kind < 30) {
@@ -96,8 +105,8 @@ public final class ModelTest {
         int other = block();
         int many = odd(1 + random.nextInt(random.nextBoolean() ? 4 : 24));
         switch (kind) {
-            case 0: both("make(" + v + ", " + many + ")", () -> x.make(v, many), () -> model.make(v, many)); break;
-            case 1: case 2: case 3: text(); break;
+            case 0: case 1: case 2: both("make(" + v + ", " + many + ")", () -> x.make(v, many), () -> model.make(v, many)); break;
+            case 3: text(); break;
             case 4: case 5: case 6: both("add(" + b + ", " + v + ")", () -> x.add(b, v), () -> model.add(b, v)); break;
             case 7: case 8: case 9: case 10:
                 both("put(" + b + ", " + p + ", " + v + ")", () -> x.put(b, p, v), () -> model.put(b, p, v));
