@@ -1,6 +1,3 @@
-import java.util.ArrayList;
-import java.util.List;
-
 /** The boundaries that are named ahead of the promises: what it is, blocks, vows, settings, undo, exceptions. */
 final class EdgesOfTerms {
     private static final Check check = EdgesTest.check;
@@ -409,21 +406,21 @@ final class EdgesOfTerms {
     // ---- exceptions
 
     /** Calls that are refused on the object that refusing() makes; each method that throws is among them. */
-    private static List<Check.Call> refusedCalls(VowBlocks x) {
-        List<Check.Call> calls = new ArrayList<>();
-        calls.addAll(List.of(() -> x.make(256, 1), () -> x.make(0, 1), x::read, () -> x.add(8, 1), () -> x.add(0, 256), () -> x.add(0, 1)));
-        calls.addAll(List.of(() -> x.put(8, 0, 1), () -> x.put(1, 2, 1), () -> x.put(1, 0, 256), () -> x.take(8, 0), () -> x.take(1, 2)));
-        calls.addAll(List.of(() -> x.take(2, 0), () -> x.turn(8), () -> x.join(0, 8), () -> x.join(8, 0), () -> x.join(1, 1)));
-        calls.addAll(List.of(() -> x.join(0, 1), () -> x.join(1, 0), () -> x.cut(8, 1), () -> x.cut(1, 0), () -> x.cut(1, 2), () -> x.cut(1, 1)));
-        calls.addAll(List.of(() -> x.pass(0), () -> x.pass(101), () -> x.pass(100), () -> x.breakVow(8), () -> x.ask(8, 0, 0)));
-        calls.addAll(List.of(() -> x.ask(0, 3, 0), () -> x.ask(0, 0, 256), () -> x.set(2, 1), () -> x.set(0, 0), () -> x.set(1, 101)));
-        calls.addAll(List.of(() -> x.append(32), () -> x.append('1'), () -> x.block(8, 0), () -> x.block(0, 12), () -> x.value(1, 2)));
-        calls.addAll(List.of(() -> x.count(16), () -> x.setting(2), () -> x.cost(0, 6), () -> x.work(0, 0, 3, 0), () -> x.regretIn(0, 201)));
-        calls.addAll(List.of(() -> x.gain(8), () -> x.cheapest(1, 2), () -> x.mate(8)));
-        return calls;
+    private static Check.Call[] refusedCalls(VowBlocks x) {
+        return new Check.Call[] {
+            () -> x.make(256, 1), () -> x.make(0, 1), x::read, () -> x.add(8, 1), () -> x.add(0, 256), () -> x.add(0, 1),
+            () -> x.put(8, 0, 1), () -> x.put(1, 2, 1), () -> x.put(1, 0, 256), () -> x.take(8, 0), () -> x.take(1, 2),
+            () -> x.take(2, 0), () -> x.turn(8), () -> x.join(0, 8), () -> x.join(8, 0), () -> x.join(1, 1),
+            () -> x.join(0, 1), () -> x.join(1, 0), () -> x.cut(8, 1), () -> x.cut(1, 0), () -> x.cut(1, 2),
+            () -> x.cut(1, 1), () -> x.pass(0), () -> x.pass(101), () -> x.pass(100), () -> x.breakVow(8),
+            () -> x.ask(8, 0, 0), () -> x.ask(0, 3, 0), () -> x.ask(0, 0, 256), () -> x.set(2, 1), () -> x.set(0, 0),
+            () -> x.set(1, 101), () -> x.append(32), () -> x.append('1'), () -> x.block(8, 0), () -> x.block(0, 12),
+            () -> x.value(1, 2), () -> x.count(16), () -> x.setting(2), () -> x.cost(0, 6), () -> x.work(0, 0, 3, 0),
+            () -> x.regretIn(0, 201), () -> x.gain(8), () -> x.cheapest(1, 2), () -> x.mate(8),
+        };
     }
 
-    /** Eight blocks, of 24, 2 and 1 values and more, on the day 4950, with a full buffer. */
+    /** Eight blocks, of 24, 2 and 1 values and more, on the day 4960, with a full buffer and six saved states. */
     private static VowBlocks refusing() {
         VowBlocks x = new VowBlocks();
         x.make(255, 24);

@@ -13,6 +13,8 @@ public final class EdgesTest {
         edges.run();
         if (Files.exists(DOCUMENT)) {
             edges.compareWith(DOCUMENT);
+        } else {
+            System.out.println("EdgesTest: " + DOCUMENT + " is not here, so its sentences are not looked up");
         }
         check.finish();
     }
